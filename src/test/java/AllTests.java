@@ -4,6 +4,13 @@ public final class AllTests {
     }
 
     public static void main(String[] args) {
+        BodiesTest.all();
+        LinesTest.all();
+        ScopesTest.all();
+        CancelTest.all();
+        LocksAndChannelsTest.all();
+        AsksTest.all();
+        WouldTest.all();
         ModelTest.all();
         if (!Check.tellEnd()) {
             System.exit(1);

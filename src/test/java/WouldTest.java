@@ -1,0 +1,161 @@
+/** Promises 17 to 21: what would be, and the checksum. */
+final class WouldTest {
+    private WouldTest() {
+    }
+
+    static void all() {
+        wouldHit();
+        overBy();
+        isClosedBy();
+        thereBy();
+        digest();
+        manyQuestions();
+    }
+
+    private static void wouldHit() {
+        Check.begin("promise 17");
+        ScopeRow x = Check.with(Check.lines("OPEN 0 6", "SPAWN 1", "SPAWN 2", "SPAWN 3", "SPAWN 1", "SHUT"),
+            Check.lines("SLEEP 9"), Check.lines("SHIELD 3", "OPEN 0 3", "SLEEP 8"), Check.lines("RETURN"));
+        Check.index(x, "no scope", () -> x.wouldHit(0));
+        x.start(0);
+        x.run(4);
+        Check.due("opener, sleeper and the new one", x.wouldHit(0), 3);
+        Check.due("by the shield", x.wouldHit(1), 1);
+        Check.due("inside of the shield", x.wouldHit(2), 1);
+        Check.due("nothing changed", x.many(9), 0);
+        x.cancel(2);
+        Check.due("hit already", x.wouldHit(1), 0);
+        Check.due("cancelled already", x.wouldHit(2), 0);
+        x.run(9);
+        Check.due("closed", x.wouldHit(2), 0);
+        Check.index(x, "scope -1", () -> x.wouldHit(-1));
+        Check.index(x, "scope 3", () -> x.wouldHit(3));
+    }
+
+    private static void overBy() {
+        Check.begin("promise 18");
+        ScopeRow x = Check.with(Check.lines("SLEEP 2", "OPEN 0 4", "SPAWN 1", "SHUT"), Check.lines("SLEEP 1"));
+        x.start(0);
+        long before = x.digest();
+        Check.due("one turn behind each", x.overBy(1, 50), 0);
+        Check.due("it sleeps till 3", x.overBy(2, 50), 0);
+        Check.due("spawned ones, too", x.overBy(4, 50), 2);
+        Check.due("four ticks, one turn behind each", x.overBy(4, 1), 0);
+        Check.due("five", x.overBy(5, 1), 1);
+        Check.due("six", x.overBy(6, 1), 2);
+        Check.due("the most", x.overBy(20, 50), 2);
+        Check.due("digest", x.digest(), before);
+        Check.argument(x, "ticks 0", () -> x.overBy(0, 1));
+        Check.argument(x, "ticks 21", () -> x.overBy(21, 1));
+        Check.argument(x, "turns 0", () -> x.overBy(1, 0));
+        Check.argument(x, "turns 51", () -> x.overBy(1, 51));
+        Check.argument(x, "both", () -> x.overBy(-1, -1));
+    }
+
+    private static void isClosedBy() {
+        Check.begin("promise 19");
+        ScopeRow x = Check.with(Check.lines("OPEN 0 4", "SPAWN 1", "SPAWN 1", "SHUT"), Check.lines("SLEEP 9"),
+            Check.lines("OPEN 0 2", "SHUT", "OPEN 0 4", "SPAWN 3"), Check.lines("SHIELD 2", "SLEEP 1"));
+        x.start(0);
+        x.run(9);
+        long before = x.digest();
+        Check.no("behind one turn", x.isClosedBy(0, 1));
+        Check.yes("behind two", x.isClosedBy(0, 2));
+        Check.yes("behind fifty", x.isClosedBy(0, 50));
+        Check.due("digest", x.digest(), before);
+        x.start(2);
+        x.run(9);
+        Check.yes("closed already", x.isClosedBy(1, 1));
+        Check.no("a shield in it", x.isClosedBy(2, 50));
+        Check.index(x, "scope -1", () -> x.isClosedBy(-1, 0));
+        Check.index(x, "scope 4", () -> x.isClosedBy(4, 1));
+        Check.argument(x, "turns 0", () -> x.isClosedBy(0, 0));
+        Check.argument(x, "turns 51", () -> x.isClosedBy(0, 51));
+    }
+
+    private static void thereBy() {
+        Check.begin("promise 20");
+        ScopeRow x = Check.with(Check.lines("ADD 5", "TAKE 0", "FAIL 3"), Check.lines("ADD 8", "SEND 0"));
+        Check.starts(x, 0, 1);
+        long before = x.digest();
+        Check.due("one turn", x.thereBy(0, 1), 5);
+        Check.due("two turns", x.thereBy(0, 2), 5);
+        Check.due("three turns", x.thereBy(0, 3), 3);
+        Check.due("the other, two turns", x.thereBy(1, 2), 8);
+        Check.due("nothing goes on", x.ofTask(0, 3), 0);
+        Check.due("digest", x.digest(), before);
+        Check.index(x, "task -1", () -> x.thereBy(-1, 0));
+        Check.index(x, "task 2", () -> x.thereBy(2, 1));
+        Check.argument(x, "turns 0", () -> x.thereBy(0, 0));
+        Check.argument(x, "turns 51", () -> x.thereBy(1, 51));
+    }
+
+    private static void digest() {
+        Check.begin("promise 21");
+        Check.due("of a new object", new ScopeRow().digest(), 8245379984244863194L);
+        ScopeRow x = Check.with(Check.lines("OPEN 3 7", "SPAWN 1", "SPAWN 2", "LOCK 0", "SEND 1", "SHUT", "ADD 9"),
+            Check.lines("LOCK 0", "PUT 2", "TAKE 1"), Check.lines("SHIELD 2", "PICK", "SLEEP 2", "FAIL 3"));
+        x.start(0);
+        Check.due("of a new task", x.digest(), digestByAsking(x));
+        for (int i = 0; i < 9; i++) {
+            x.run(1);
+            Check.due("behind a turn", x.digest(), digestByAsking(x));
+            x.tick(1);
+            Check.due("behind a tick", x.digest(), digestByAsking(x));
+        }
+    }
+
+    private static long digestByAsking(ScopeRow x) {
+        long d = 7614;
+        for (int what = 0; what <= 12; what++) {
+            d = d * 31 + x.many(what);
+        }
+        for (int task = 0; task < x.many(1); task++) {
+            for (int what = 0; what <= 8; what++) {
+                d = d * 31 + x.ofTask(task, what);
+            }
+            for (int local = 0; local < 4; local++) {
+                d = d * 31 + x.local(task, local);
+            }
+        }
+        for (int scope = 0; scope < x.many(7); scope++) {
+            for (int what = 0; what <= 8; what++) {
+                d = d * 31 + x.ofScope(scope, what);
+            }
+            d = d * 31 + x.wouldHit(scope);
+        }
+        for (int lock = 0; lock < 2; lock++) {
+            for (int what = 0; what <= 3; what++) {
+                d = d * 31 + x.ofLock(lock, what);
+            }
+        }
+        for (int channel = 0; channel < 2; channel++) {
+            for (int what = 0; what <= 6; what++) {
+                d = d * 31 + x.ofChannel(channel, what);
+            }
+        }
+        d = d * 31 + x.stuck();
+        d = d * 31 + x.overBy(1, 10);
+        return d * 31 + x.overBy(5, 10);
+    }
+
+    /** A question behind another question is answered as if it were the first. */
+    private static void manyQuestions() {
+        Check.begin("promises 18 to 20, one behind another");
+        ScopeRow x = Check.with(Check.lines("OPEN 0 12", "SPAWN 1", "SLEEP 1", "SPAWN 1", "SEND 0", "SHUT"),
+            Check.lines("LOCK 0", "SLEEP 2", "TAKE 0"));
+        x.start(0);
+        x.run(2);
+        int over = x.overBy(3, 9);
+        boolean closed = x.isClosedBy(0, 9);
+        int there = x.thereBy(0, 9);
+        for (int i = 0; i < 5; i++) {
+            Check.due("overBy", x.overBy(3, 9), over);
+            Check.due("isClosedBy", x.isClosedBy(0, 9) ? 1 : 0, closed ? 1 : 0);
+            Check.due("thereBy", x.thereBy(0, 9), there);
+            x.overBy(20, 50);
+        }
+        Check.due("tasks", x.many(1), 2);
+        Check.due("now", x.many(10), 0);
+    }
+}
