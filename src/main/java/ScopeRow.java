@@ -382,20 +382,6 @@ public final class ScopeRow {
             this.number = number;
         }
 
-        void begin(int ofBody, int inScope) {
-            body = ofBody;
-            in = inScope;
-            state = TASK_READY;
-            line = 0;
-            there = 0;
-            for (int i = 0; i < locals.length; i++) {
-                locals[i] = 0;
-            }
-            top = NONE;
-            depth = 0;
-            behind = WAIT_NOTHING;
-        }
-
         boolean isOver() {
             return state == TASK_RETURNED || state == TASK_FAILED || state == TASK_DROPPED;
         }
@@ -454,7 +440,7 @@ public final class ScopeRow {
         int entered;
         int over;
         int failed;
-        int firstFailed;
+        int firstFailed = NONE;
 
         Scope(int number) {
             this.number = number;
@@ -465,15 +451,9 @@ public final class ScopeRow {
             opener = task.number;
             below = task.top;
             outer = task.top != NONE ? task.top : task.in;
-            cancelled = false;
             shield = isShield;
             deadline = itsDeadline;
             goesOnAt = line;
-            leavingFor = WAY_GO;
-            entered = 0;
-            over = 0;
-            failed = 0;
-            firstFailed = NONE;
         }
 
         /** OPEN or LEAVING. */
@@ -659,7 +639,8 @@ public final class ScopeRow {
             if (task == null) {
                 return NONE;
             }
-            task.begin(body, in);
+            task.body = body;
+            task.in = in;
             taskCount++;
             makeReady(task);
             return task.number;
@@ -792,7 +773,6 @@ public final class ScopeRow {
             if (!task.given) {
                 return;
             }
-            task.given = false;
             Lock lock = lockAt(task.target);
             if (behind == WAIT_LOCK && lock != null) {
                 freeLock(lock);
@@ -913,7 +893,6 @@ public final class ScopeRow {
         /** What a turn begins with, by what the TASK WAITED for. */
         int beginTurn(Task task) {
             int behind = task.behind;
-            task.behind = WAIT_NOTHING;
             if (behind == WAIT_NOTHING) {
                 return WAY_GO;
             }

@@ -115,6 +115,16 @@ final class CancelTest {
         x.cancel(0);
         x.run(1);
         Check.due("done with 1", x.ofTask(0, 1) * 10 + x.ofTask(0, 3), 26);
+
+        // Nor does that FAIL come back behind the next wait.
+        ScopeRow y = Check.with(Check.lines("OPEN 0 2", "TAKE 0", "SLEEP 1", "ADD 5"), Check.lines("END 0"));
+        Check.starts(y, 0, 1);
+        y.run(2);
+        y.cancel(0);
+        y.run(1);
+        y.tick(1);
+        y.run(1);
+        Check.due("returned with 6", y.ofTask(0, 1) * 10 + y.ofTask(0, 3), 26);
     }
 
     private static void shieldKeepsOff() {

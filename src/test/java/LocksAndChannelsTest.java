@@ -22,6 +22,9 @@ final class LocksAndChannelsTest {
         valueGivenBackToAnother();
         moreThanRoom();
         valueOfSenderIsGone();
+        nothingToGiveBack();
+        onlyThatIsGivenBack();
+        takeBehindPick();
     }
 
     private static void locksAlone() {
@@ -284,6 +287,66 @@ final class LocksAndChannelsTest {
         x.run(9);
         Check.due("the others", x.ofTask(3, 3) * 10 + x.ofTask(4, 3), 67);
         Check.due("taken", x.ofChannel(0, 6), 3);
+    }
+
+    /** What came of an earlier wait is not given back by the CANCEL of a later one. */
+    private static void nothingToGiveBack() {
+        ScopeRow x = Check.with(Check.lines("OPEN 0 4", "TAKE 0", "TAKE 0", "FAIL 1", "ADD 5"),
+            Check.lines("ADD 7", "SEND 0"));
+        Check.starts(x, 0, 1);
+        x.run(9);
+        Check.due("has the first one", x.ofTask(0, 3), 7);
+        x.cancel(0);
+        x.run(1);
+        Check.due("nothing came back", x.ofChannel(0, 1), 0);
+        Check.due("taken", x.ofChannel(0, 6), 1);
+        Check.due("done", x.ofTask(0, 3), 6);
+
+        ScopeRow y = Check.with(Check.lines("LOCK 0", "SLEEP 1", "FREE 0"),
+            Check.lines("OPEN 0 3", "LOCK 0", "SLEEP 9", "TAKE 1"));
+        Check.starts(y, 0, 1);
+        y.run(9);
+        y.tick(1);
+        y.run(9);
+        y.cancel(0);
+        y.run(1);
+        Check.due("the lock is held", y.ofLock(0, 0), 1);
+        Check.due("it waits", y.ofTask(1, 8), 4);
+    }
+
+    private static void onlyThatIsGivenBack() {
+        ScopeRow x = Check.with(Check.lines("LOCK 1", "OPEN 0 4", "TAKE 1", "FAIL 1", "TAKE 0"),
+            Check.lines("ADD 7", "SEND 1"));
+        Check.starts(x, 0, 1);
+        x.run(2);
+        x.cancel(0);
+        x.run(1);
+        Check.due("the value came back", x.ofChannel(1, 2), 7);
+        Check.due("not the lock of that number", x.ofLock(1, 0), 0);
+
+        ScopeRow y = Check.with(Check.lines("LOCK 0", "SLEEP 1"), Check.lines("OPEN 0 3", "LOCK 0", "FAIL 1", "TAKE 1"));
+        Check.starts(y, 0, 1);
+        y.run(9);
+        y.tick(1);
+        y.run(1);
+        y.cancel(0);
+        y.run(1);
+        Check.due("the lock came back", y.ofLock(0, 0), -1);
+        Check.due("no value came into the channel of that number", y.ofChannel(0, 1), 0);
+        Check.due("nor was it taken", y.ofChannel(0, 6), 0);
+    }
+
+    private static void takeBehindPick() {
+        ScopeRow x = Check.with(Check.lines("PICK", "TAKE 0", "GET 3"), Check.lines("ADD 7", "SEND 1", "SEND 1"),
+            Check.lines("LOCK 1", "SLEEP 1"), Check.lines("PICK", "LOCK 1"));
+        Check.starts(x, 0, 1);
+        x.run(9);
+        Check.due("it waits for channel 0", x.ofChannel(0, 4), 1);
+        Check.due("and no more for channel 1", x.ofChannel(1, 4), 0);
+        Check.due("in which there is one", x.ofChannel(1, 1), 1);
+        Check.starts(x, 2, 3);
+        x.run(9);
+        Check.due("behind a PICK it waits for one lock", x.ofLock(0, 1) * 10 + x.ofLock(1, 1), 1);
     }
 
     private static void valueOfSenderIsGone() {

@@ -18,8 +18,12 @@ final class ModelTest {
     }
 
     static void all() {
+        runs(0, RUNS);
+    }
+
+    static void runs(int from, int to) {
         Check.begin("second model");
-        for (int seed = 0; seed < RUNS; seed++) {
+        for (int seed = from; seed < to; seed++) {
             ModelTest test = new ModelTest(seed);
             test.go();
             Check.yes("run " + seed, test.same);
@@ -43,12 +47,27 @@ final class ModelTest {
             call(0, random.nextInt(bodies));
         }
         for (int i = 0; same && i < CALLS; i++) {
-            call(random.nextInt(24), wild(bodies));
+            call(random.nextInt(26), wild(bodies));
+            if (i % 32 == 8) {
+                wouldBe();
+            }
             if (i % 16 == 0) {
                 same("digest", x::digest, model::digest);
             }
         }
         same("digest", x::digest, model::digest);
+    }
+
+    private void wouldBe() {
+        int most = 1 + random.nextInt(12);
+        for (int i = 0; i < model.tasks.size(); i++) {
+            int task = i;
+            same("thereBy", () -> x.thereBy(task, most), () -> model.thereBy(task, most));
+        }
+        for (int i = 0; i < model.scopes.size(); i++) {
+            int scope = i;
+            same("isClosedBy", () -> x.isClosedBy(scope, most) ? 1 : 0, () -> model.isClosedBy(scope, most) ? 1 : 0);
+        }
     }
 
     /** Some kinds more often than others, so that TASKS meet in SCOPES, at LOCKS and at CHANNELS. */
@@ -59,43 +78,36 @@ final class ModelTest {
 
     private void writeBody(int body) {
         int lines = random.nextInt(13);
-        // A kind or two is left out of a whole body, so that these differ.
+        // One kind is left out of a whole body, so that these differ.
         int leftOut = random.nextInt(19);
         for (int own = 0; own < lines; own++) {
-            int kind = own == 0 && random.nextInt(3) > 0 ? 7 + random.nextInt(2) : KINDS[random.nextInt(KINDS.length)];
-            if (kind == leftOut) {
-                continue;
+            boolean opens = own == 0 && random.nextInt(3) > 0;
+            int kind = opens ? 7 + random.nextInt(2) : KINDS[random.nextInt(KINDS.length)];
+            if (kind != leftOut) {
+                write(body, kind, someA(kind), someB(kind, own));
             }
-            int a = random.nextInt(25) - 2;
-            int b = random.nextInt(3) == 0 ? random.nextInt(14) : 0;
-            if (Program.needsTwo(kind)) {
-                a = random.nextInt(2);
-            } else if (kind == 10) {
-                a = random.nextInt(8);
-            } else if (kind >= 1 && kind <= 3) {
-                a = random.nextInt(4);
-            } else if (kind == 6 || kind == 12) {
-                a = 1 + random.nextInt(7);
-            } else if (kind == 7) {
-                a = Math.max(0, random.nextInt(16) - 8);
-            } else if (kind != 0) {
-                a = 0;
-            }
-            if (kind == 4 || kind == 7 || kind == 8) {
-                b = own + 1 + random.nextInt(12 - Math.min(own, 11));
-            } else if (kind == 3) {
-                b = random.nextInt(own + 1);
-            } else {
-                b = 0;
-            }
-            write(body, kind, a, b);
         }
     }
 
-    private static final class Program {
-        static boolean needsTwo(int kind) {
-            return kind >= 13 && kind <= 17;
-        }
+    private int someA(int kind) {
+        return switch (kind) {
+            case 0 -> random.nextInt(25) - 2;
+            case 1, 2, 3 -> random.nextInt(4);
+            case 6 -> 1 + random.nextInt(7);
+            case 7 -> Math.max(0, random.nextInt(16) - 8);
+            case 10 -> random.nextInt(8);
+            case 12 -> 1 + random.nextInt(5);
+            case 13, 14, 15, 16, 17 -> random.nextInt(2);
+            default -> 0;
+        };
+    }
+
+    private int someB(int kind, int own) {
+        return switch (kind) {
+            case 3 -> random.nextInt(own + 1);
+            case 4, 7, 8 -> own + 1 + random.nextInt(12 - own);
+            default -> 0;
+        };
     }
 
     private void write(int body, int kind, int a, int b) {
@@ -123,7 +135,7 @@ final class ModelTest {
             case 0, 1 -> same("start " + n, () -> x.start(n), () -> model.start(n));
             case 2, 3, 4, 5, 6 -> same("run " + most, () -> x.run(most), () -> model.run(most));
             case 7, 8, 9 -> same("tick " + two, () -> x.tick(two), () -> model.tick(two));
-            case 10 -> same("cancel " + scope, () -> x.cancel(scope) ? 1 : 0, () -> model.cancel(scope) ? 1 : 0);
+            case 10, 23, 24 -> same("cancel " + scope, () -> x.cancel(scope) ? 1 : 0, () -> model.cancel(scope) ? 1 : 0);
             case 11 -> same("ofTask", () -> x.ofTask(task, what), () -> model.ofTask(task, what));
             case 12 -> same("local", () -> x.local(task, two), () -> model.local(task, two));
             case 13 -> same("ofScope", () -> x.ofScope(scope, what), () -> model.ofScope(scope, what));

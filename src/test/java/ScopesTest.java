@@ -51,6 +51,7 @@ final class ScopesTest {
         Check.due("at SHUT", x.ofTask(0, 2), 3);
         Check.due("there is the number of the second", x.ofTask(0, 3), 2);
         Check.due("leaving", x.ofScope(0, 1), 1);
+        Check.due("without a deadline", x.ofScope(0, 3), -1);
         x.tick(2);
         Check.due("run", x.run(1), 1);
         Check.due("one is over", x.ofScope(0, 6), 1);

@@ -10,6 +10,7 @@ final class WouldTest {
         thereBy();
         digest();
         manyQuestions();
+        asItComes();
     }
 
     private static void wouldHit() {
@@ -18,8 +19,10 @@ final class WouldTest {
             Check.lines("SLEEP 9"), Check.lines("SHIELD 3", "OPEN 0 3", "SLEEP 8"), Check.lines("RETURN"));
         Check.index(x, "no scope", () -> x.wouldHit(0));
         x.start(0);
-        x.run(4);
-        Check.due("opener, sleeper and the new one", x.wouldHit(0), 3);
+        x.run(3);
+        Check.due("opener, sleeper and the new ones", x.wouldHit(0), 4);
+        x.run(1);
+        Check.due("not the one that is over", x.ofTask(3, 1) * 10 + x.wouldHit(0), 23);
         Check.due("by the shield", x.wouldHit(1), 1);
         Check.due("inside of the shield", x.wouldHit(2), 1);
         Check.due("nothing changed", x.many(9), 0);
@@ -137,6 +140,67 @@ final class WouldTest {
         d = d * 31 + x.stuck();
         d = d * 31 + x.overBy(1, 10);
         return d * 31 + x.overBy(5, 10);
+    }
+
+    /** What would be is asked of one object, and done on another that was told the same calls. */
+    private static void asItComes() {
+        Check.begin("promises 18 to 20, as it comes");
+        String[][][] all = {
+            {Check.lines("OPEN 2 5", "SPAWN 1", "SPAWN 2", "SEND 0", "SHUT", "ADD 9"),
+                Check.lines("LOCK 0", "SLEEP 2", "TAKE 0"), Check.lines("SHIELD 3", "LOCK 0", "PICK")},
+            {Check.lines("ADD 4", "PUT 1", "SEND 0", "ADD 1", "SEND 0", "ADD 1", "SEND 1", "END 0"),
+                Check.lines("PICK", "TAKE 0", "GET 3"), Check.lines("SLEEP 1", "TAKE 0", "TAKE 0", "FAIL 3")},
+            {Check.lines("OPEN 0 8", "OPEN 4 8", "SPAWN 1", "SPAWN 2", "SLEEP 3", "SHUT", "ADD 3", "SHUT", "ADD 5"),
+                Check.lines("SLEEP 1", "FAIL 6"), Check.lines("OPEN 0 5", "SHIELD 4", "SLEEP 2", "SHUT", "TAKE 1")},
+            {Check.lines("OPEN 0 6", "SPAWN 1", "SPAWN 1", "LOCK 0", "TAKE 0", "TAKE 0", "FAIL 2"),
+                Check.lines("LOCK 0", "FREE 0", "SEND 0", "LOCK 0"), Check.lines("ADD 2", "TAKE 0", "ADD 3", "SEND 0")},
+            {Check.lines("LOCK 1", "SLEEP 2", "END 0"), Check.lines("TAKE 0", "LOCK 1"), Check.lines("PICK", "LOCK 1")},
+            {Check.lines("OPEN 3 4", "TAKE 0", "SLEEP 1", "LOCK 0", "PICK", "PICK"),
+                Check.lines("ADD 5", "SEND 0", "SLEEP 1", "ADD 1", "SEND 1", "SEND 0"), Check.lines("TAKE 0", "SLEEP 2")},
+        };
+        for (String[][] bodies : all) {
+            for (int steps = 0; steps < 14; steps++) {
+                asItComes(bodies, steps);
+            }
+        }
+    }
+
+    private static ScopeRow told(String[][] bodies, int steps) {
+        ScopeRow x = Check.with(bodies);
+        Check.starts(x, 0, 1, 2, 0);
+        for (int i = 0; i < steps; i++) {
+            if (i % 5 == 4) {
+                x.tick(1);
+            } else {
+                x.run(1);
+            }
+        }
+        return x;
+    }
+
+    private static void asItComes(String[][] bodies, int steps) {
+        for (int turns = 1; turns < 9; turns++) {
+            int most = turns;
+            ScopeRow later = told(bodies, steps);
+            later.run(most);
+            for (int task = 0; task < told(bodies, steps).many(1); task++) {
+                Check.due("thereBy", told(bodies, steps).thereBy(task, most), later.ofTask(task, 3));
+            }
+            for (int scope = 0; scope < told(bodies, steps).many(7); scope++) {
+                ScopeRow closed = told(bodies, steps);
+                closed.cancel(scope);
+                closed.run(most);
+                Check.due("isClosedBy", told(bodies, steps).isClosedBy(scope, most) ? 2 : 0,
+                    closed.ofScope(scope, 1) / 2 * 2);
+            }
+            ScopeRow ticked = told(bodies, steps);
+            for (int ticks = 1; ticks < 5; ticks++) {
+                ticked.tick(1);
+                ticked.run(most);
+                Check.due("overBy", told(bodies, steps).overBy(ticks, most),
+                    ticked.many(4) + ticked.many(5) + ticked.many(6));
+            }
+        }
     }
 
     /** A question behind another question is answered as if it were the first. */
