@@ -4,6 +4,7 @@ public final class AllTests {
     }
 
     public static void main(String[] args) {
+        FaceTest.all();
         BodiesTest.all();
         LinesTest.all();
         ScopesTest.all();
