@@ -6,12 +6,16 @@ public final class AllTests {
     public static void main(String[] args) {
         FaceTest.all();
         BodiesTest.all();
+        EdgesOfBodiesTest.all();
         LinesTest.all();
         ScopesTest.all();
+        EdgesOfScopesTest.all();
         CancelTest.all();
         LocksAndChannelsTest.all();
+        EdgesOfTurnsTest.all();
         AsksTest.all();
         WouldTest.all();
+        EdgesOfCallsTest.all();
         ModelTest.all();
         if (!Check.tellEnd()) {
             System.exit(1);

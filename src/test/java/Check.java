@@ -1,5 +1,13 @@
+import java.util.function.LongSupplier;
+import java.util.function.Supplier;
+
 /** Counts what the tests find, and writes bodies for them. */
 final class Check {
+    /** A call with one number that has bounds. */
+    interface Call {
+        void of(ScopeRow x, int number);
+    }
+
     private static final String[] KINDS = {
         "ADD", "GET", "PUT", "LOOP", "SKIP", "RETURN", "FAIL", "OPEN", "SHIELD", "SHUT", "SPAWN", "STOP",
         "SLEEP", "LOCK", "FREE", "SEND", "TAKE", "END", "PICK"
@@ -24,6 +32,10 @@ final class Check {
 
     static void due(String what, long got, long want) {
         tell(got == want, what + " is " + got + ", due is " + want);
+    }
+
+    static void due(String what, String got, String want) {
+        tell(got.equals(want), what + " is " + got + ", due is " + want);
     }
 
     static void yes(String what, boolean got) {
@@ -51,6 +63,46 @@ final class Check {
 
     static void state(ScopeRow x, String what, Runnable call) {
         refuses(x, IllegalStateException.class, what, call);
+    }
+
+    /** The lowest and the highest number are taken; those beyond are refused, and change nothing, nor later. */
+    static void within(Supplier<ScopeRow> make, String what, int lowest, int highest,
+            Class<? extends RuntimeException> kind, Call call) {
+        for (int number : new int[] {lowest, highest}) {
+            ScopeRow x = make.get();
+            yes(what + " " + number + " is taken", thrownBy(() -> call.of(x, number)) == null);
+        }
+        for (int number : new int[] {lowest - 1, highest + 1, Integer.MIN_VALUE, Integer.MAX_VALUE}) {
+            ScopeRow x = make.get();
+            refuses(x, kind, what + " " + number, () -> call.of(x, number));
+            due("behind " + what + " " + number, later(x), later(make.get()));
+        }
+    }
+
+    /** What an object answers to calls that show what no question shows: lines, rooms, orders of waiting. */
+    static String later(ScopeRow x) {
+        StringBuilder text = new StringBuilder();
+        for (int body = 0; body < 8; body++) {
+            int number = body;
+            text.append(answer(() -> x.line(number, 0, 1, 0))).append(' ');
+        }
+        text.append(answer(() -> x.room(0, 2))).append(' ').append(answer(() -> x.room(1, 2))).append(' ');
+        text.append(answer(x::body)).append(' ');
+        for (int i = 0; i < 8; i++) {
+            int body = i;
+            text.append(answer(() -> x.start(body))).append(' ').append(x.run(5)).append(' ');
+            text.append(x.digest()).append(' ').append(x.tick(2)).append(' ');
+        }
+        return text.append(x.run(50)).append(' ').append(x.digest()).toString();
+    }
+
+    /** What a call answers, or the name of what it throws. */
+    static String answer(LongSupplier call) {
+        try {
+            return Long.toString(call.getAsLong());
+        } catch (RuntimeException e) {
+            return e.getClass().getSimpleName();
+        }
     }
 
     static Class<?> thrownBy(Runnable call) {
