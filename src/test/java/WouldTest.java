@@ -10,6 +10,7 @@ final class WouldTest {
         thereBy();
         digest();
         manyQuestions();
+        fromNowOn();
         asItComes();
     }
 
@@ -221,5 +222,43 @@ final class WouldTest {
         }
         Check.due("tasks", x.many(1), 2);
         Check.due("now", x.many(10), 0);
+    }
+
+    /** What would be goes on from all that is now, also from what no other question tells. */
+    private static void fromNowOn() {
+        Check.begin("promises 18 to 20, from now on");
+        ScopeRow x = Check.with(Check.lines("PICK"), Check.lines("ADD 5", "SEND 1"));
+        Check.starts(x, 0, 1);
+        x.run(1);
+        Check.due("one waits for either channel", x.thereBy(0, 2), 5);
+
+        x = Check.with(Check.lines("OPEN 0 12", "TAKE 0"), Check.lines("ADD 5", "SEND 0"), Check.lines("TAKE 0"));
+        Check.starts(x, 0, 1, 2);
+        x.run(2);
+        x.cancel(0);
+        Check.due("one has something to give back", x.thereBy(2, 3), 5);
+
+        x = Check.with(Check.lines("SLEEP 1", "TAKE 0"), Check.lines("TAKE 0"), Check.lines("ADD 5", "SEND 0"));
+        Check.starts(x, 0, 1);
+        x.run(2);
+        x.tick(1);
+        x.run(1);
+        x.start(2);
+        Check.due("the second waits longer", x.thereBy(1, 2) * 10 + x.thereBy(0, 2), 50);
+
+        x = Check.with(Check.lines("OPEN 0 4", "SPAWN 1", "SHUT", "FAIL 3", "ADD 5"), Check.lines());
+        x.start(0);
+        x.run(1);
+        Check.due("a scope is leaving for DONE", x.thereBy(0, 2), 5);
+
+        x = Check.with(Check.lines("OPEN 0 4", "SPAWN 1", "SHUT"), Check.lines("FAIL 6"));
+        x.start(0);
+        x.run(2);
+        Check.due("one in a scope has failed", x.thereBy(0, 1), 6);
+
+        x = Check.with(Check.lines("ADD 5", "SEND 0", "ADD 1"));
+        x.room(0, 0);
+        x.start(0);
+        Check.due("a room of 0", x.thereBy(0, 1), 5);
     }
 }
