@@ -5,6 +5,9 @@ public final class AllTests {
 
     public static void main(String[] args) {
         FaceTest.all();
+        LanguageTest.all();
+        RoomTest.all();
+        ReadmeTest.all();
         BodiesTest.all();
         EdgesOfBodiesTest.all();
         LinesTest.all();
@@ -16,6 +19,7 @@ public final class AllTests {
         AsksTest.all();
         WouldTest.all();
         EdgesOfCallsTest.all();
+        ReadAgainTest.all();
         ModelTest.all();
         if (!Check.tellEnd()) {
             System.exit(1);

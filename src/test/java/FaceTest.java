@@ -1,15 +1,12 @@
-import java.io.IOException;
 import java.lang.reflect.Constructor;
 import java.lang.reflect.Field;
 import java.lang.reflect.Method;
 import java.lang.reflect.Modifier;
-import java.nio.file.Files;
-import java.nio.file.Path;
 import java.util.ArrayList;
 import java.util.List;
 import java.util.TreeSet;
 
-/** The public face is the document's, and the program's text keeps to what LANGUAGE.md lets it use. */
+/** The public face is the document's. */
 final class FaceTest {
     private static final String BOUNDS = " throws IndexOutOfBoundsException";
     private static final String BOTH = BOUNDS + ", IllegalArgumentException";
@@ -35,10 +32,13 @@ final class FaceTest {
         "boolean isClosedBy(int, int)" + BOTH,
         "int thereBy(int, int)" + BOTH,
         "long digest()");
-    /** Each with what it would be a sign of. */
-    private static final List<String> FORBIDDEN = List.of(
-        "import ", "package ", "->", "::", "catch", "finally", "synchronized", "assert", "instanceof",
-        "Exact(", "hashCode", "equals(", "System.out", "Random", "Thread", "nanoTime", "currentTimeMillis");
+    /** What the interface says ahead of a call, and that call. */
+    private static final String[][] HEADINGS = {
+        {"// ---- bodies\n", "public int body("},
+        {"// ---- what goes on\n", "public int start("},
+        {"// ---- what one asks\n", "public int ofTask("},
+        {"// ---- what would be (nothing is changed)\n", "public int wouldHit("},
+    };
 
     private FaceTest() {
     }
@@ -71,7 +71,7 @@ final class FaceTest {
         Check.due("constructors", constructors.length, 1);
         Check.due("their parameters", constructors[0].getParameterCount(), 0);
         Check.yes("final", Modifier.isFinal(ScopeRow.class.getModifiers()));
-        text();
+        headings();
     }
 
     private static String textOf(Method method) {
@@ -88,18 +88,20 @@ final class FaceTest {
             + (thrown.isEmpty() ? "" : " throws " + String.join(", ", thrown));
     }
 
-    private static void text() {
-        Check.begin("LANGUAGE.md");
-        String text;
-        try {
-            text = Files.readString(Path.of("src/main/java/ScopeRow.java"));
-        } catch (IOException e) {
-            Check.yes("the program's text can be read", false);
-            return;
+    private static void headings() {
+        Check.begin("Ahead of the calls the interface says");
+        String text = SourceText.of(SourceText.PROGRAM);
+        for (String[] heading : HEADINGS) {
+            int place = text.indexOf(heading[0]);
+            int call = text.indexOf(heading[1]);
+            Check.yes(heading[0].trim() + " stands just ahead of its calls",
+                place >= 0 && call > place && text.substring(place + heading[0].length(), call).isBlank());
         }
-        for (String sign : FORBIDDEN) {
-            Check.no("'" + sign + "' in the text", text.contains(sign));
+        int before = -1;
+        for (String due : FACE) {
+            int place = text.indexOf("public " + due.substring(0, due.indexOf('(') + 1));
+            Check.yes(due + " stands in the document's order", place > before);
+            before = place;
         }
-        Check.yes("signs of 1 to 127", text.chars().allMatch(sign -> sign > 0 && sign < 128));
     }
 }
